@@ -619,8 +619,8 @@ public final class GlassLaces {
             return lace;
         }
 
-        boolean isProper(int lace, int mark) {
-            return Math.abs(lace - properAt(mark)) <= slack;
+        boolean isNear(int lace, int proper) {
+            return Math.abs(lace - proper) <= slack;
         }
 
         int fate(int lady, int lace, int pressure) {
@@ -634,10 +634,13 @@ public final class GlassLaces {
             return fate(lady, lace, pressure) == STANDS;
         }
 
-        /** Whether she stands in her own ROOM, open, at a mark of the GLASS. */
+        /** The PRESSURE in her own ROOM, open, at a mark of the GLASS. */
+        int pressureOf(int lady, int mark) {
+            return mark - rooms.cell(ladies.cell(lady, LADY_ROOM), ROOM_HEIGHT);
+        }
+
         boolean standsAt(int lady, int lace, int mark) {
-            int height = rooms.cell(ladies.cell(lady, LADY_ROOM), ROOM_HEIGHT);
-            return fate(lady, lace, mark - height) == STANDS;
+            return fate(lady, lace, pressureOf(lady, mark)) == STANDS;
         }
 
         int highestStand(int lady, int mark) {
@@ -1500,8 +1503,9 @@ public final class GlassLaces {
 
         int improper() {
             int bits = 0;
+            int proper = court.properAt(glass);
             for (int l = 0; l < LADIES_MAX; l++) {
-                if (hasLady(l) && isUp(l) && !court.isProper(lace[l], glass)) {
+                if (hasLady(l) && isUp(l) && !court.isNear(lace[l], proper)) {
                     bits |= 1 << l;
                 }
             }
@@ -1626,9 +1630,11 @@ public final class GlassLaces {
             Arrays.fill(need[minutes], 0);
             for (int minute = minutes - 1; minute >= 0; minute--) {
                 int mark = forecast.cell(minute, 0);
+                int pressure = court.pressureOf(lady, mark);
+                int law = court.properAt(mark);
                 for (int lace = 0; lace <= LACE_TOP; lace++) {
-                    boolean fit = court.standsAt(lady, lace, mark)
-                            && (!proper || court.isProper(lace, mark));
+                    boolean fit = court.stands(lady, lace, pressure)
+                            && (!proper || court.isNear(lace, law));
                     isFit[minute * (LACE_TOP + 1) + lace] = fit;
                     need[minute][lace] = fit ? need[minute + 1][lace] : TOO_FAR;
                 }

@@ -9,8 +9,8 @@ import java.util.Set;
 import java.util.TreeSet;
 
 /**
- * Any call with any arguments in any state: none throws, the same calls give the same answers, and
- * nothing is told but by text() and again(). Also the face: the document's members and no other.
+ * Any call with any arguments in any state: none throws, and an object that was asked much answers
+ * as one that was asked little. Also the face: the document's members and no other.
  */
 public final class AnyCallTest {
     private static final int[] EDGES = {-1, 0, 1, 2, 3, 4, 5, 6, 7, 8, 9, 10, 11, 12, 15, 16, 19, 20, 21, 22, 23, 24,
@@ -26,6 +26,8 @@ public final class AnyCallTest {
         {"", "owes 0 7 99;owes 7 0 1;owes 3 4 5;", Check.times(30, "owes 6 7 99;")},
         {"", "maid 0 30;", Check.times(5, "maid 0 10;maid 9 30;")},
     };
+
+    private static final Set<String> TELLING = Set.of("feed", "end", "text", "image", "again");
 
     public static void main(String[] args) throws Exception {
         face();
@@ -67,7 +69,9 @@ public final class AnyCallTest {
             Check.due(told + " threw " + thrown.getCause() + ": true", true, false);
             return;
         }
-        Check.due(told + " once more on another object", got.equals(call.invoke(same, with)), true);
+        if (TELLING.contains(call.getName()) || random.nextInt(4) == 0) {
+            Check.due(told + " of one asked less", got.equals(call.invoke(same, with)), true);
+        }
     }
 
     private static Method[] calls() {

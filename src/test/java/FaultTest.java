@@ -34,6 +34,12 @@ public final class FaultTest {
         bad(Check.SHIFTS, 1, "^mAid 1 2;");
         bad(Check.SHIFTS, 1, "^mai d 1 2;");
         bad(Check.SHIFTS, 1, "^maids 1 2;");
+        bad(Check.SHIFTS, 1, "^maidz 1 2;");
+        bad(Check.SHIFTS, 1, "^maida 1 2;");
+        bad(Check.SHIFTS, 1, "maid^{ 1 2;");
+        bad(Check.SHIFTS, 1, "maid^` 1 2;");
+        bad(Check.SHIFTS, 1, "maid^/1 2;");
+        bad(Check.SHIFTS, 1, "maid 1^: 2;");
         bad(Check.SHIFTS, 1, "maid^_ 1 2;");
         bad(Check.SHIFTS, 1, "maid ^001 2;");
         bad(Check.SHIFTS, 1, "maid 1 ^100;");

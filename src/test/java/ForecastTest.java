@@ -84,6 +84,12 @@ public final class ForecastTest {
                 Check.FORECAST, "mark 0 2 1;", Check.FORECAST, "mark 2 0;");
         dueLaced(z, 0, 0, true, "2 4 4 5");
         dueLaced(z, 1, 0, true, "1 4 4");
+        GlassLaces w = Check.told(Check.COURT, "room 1 0;lady 0 30 60 90 0;lady 0 29 60 90 0;proper 10 29;"
+                + "proper 20 30;slack 0;", Check.FORECAST, "mark 10 20;", Check.FORECAST, "mark 0;");
+        dueLaced(w, 0, 0, true, "2 29 30");
+        dueLaced(w, 0, 1, true, "1 29 30");
+        dueLaced(w, 0, 0, false, "0 30 30");
+        dueLaced(w, 1, 0, true, "30 0");
     }
 
     private static void dueLeast(GlassLaces x, int n, boolean proper, int knots, int who) {

@@ -53,6 +53,13 @@ public final class SightTest {
         dueWays(steady + "glass 0;", "stood 0 1;", 2);
         dueWays(steady + "glass 0;", "stood 0 2;", 5);
         dueWays(steady + "glass 40;wind 0 1 0;", "stood 0 2;", 5);
+        GlassLaces x = Check.told(Check.COURT, steady + "glass 20;", Check.COURT, steady + "glass 0;",
+                Check.SIGHT, "stood 0 2;", Check.SIGHT, "fell 0 2;");
+        for (int k = 0; k < 2; k++) {
+            Check.due("ways from 20", x.ways(0, 0), 9);
+            Check.due("ways from 0", x.ways(1, 0), 5);
+            Check.due("no ways from 20", x.ways(0, 1), 0);
+        }
     }
 
     private static void waysOfSome() {
@@ -100,6 +107,9 @@ public final class SightTest {
                 Check.SIGHT, "stood 0 1;shot 3 0 fell;");
         Check.due("ways with one SEEN who is not there", x.ways(0, 0), -1);
         Check.due("may with one SEEN who is not there", x.may(0, 0, 0, 0), -1);
+        Check.feed(x, "fell 3 1;stood 0 1;");
+        x.text(Check.SIGHT, 0);
+        Check.due("ways with the first SEEN not there", x.ways(0, 0), -1);
         Check.due("ways with one shot at who is not there", x.ways(0, 1), 3);
         Check.due("may with one shot at who is not there", x.may(0, 1, 1, 0), 28);
         Check.due("spy of one who is not there", x.spy(0, 1, 3), -1);

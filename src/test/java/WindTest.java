@@ -118,6 +118,9 @@ public final class WindTest {
         Check.due("worth to 3", x.worth(0, 3, 1, 0), -1);
         Check.due("worth to -1", x.worth(0, -1, 1, 2), -1);
         Check.due("worth in court 1", x.worth(1, 0, 1, 0), -1);
+        x = Check.told(Check.COURT, "room 1 0;lady 0 30 60 90 0;lady 0 30 60 20 0;");
+        dueWorth(x, 0, 99, 0, 1, 30);
+        dueWorth(x, 1, 2, 0, 1, 30);
         x = Check.told(Check.COURT, "room 1 0;lady 0 5 60 45 0;glass 40;wind 0 0 1;");
         dueWorth(x, 0, 99, 0, 1, 5);
         x = Check.told(Check.COURT, "room 1 0;lady 0 5 60 44 0;glass 40;wind 1 0 1;");
