@@ -1879,7 +1879,6 @@ public final class GlassLaces {
 
         /** Ways on from a mark, through such marks alone as can be come to. */
         void goOn() {
-            Arrays.fill(going[last], 1);
             for (int minute = last; minute >= 0; minute--) {
                 for (int mark = 0; mark <= MARK_TOP; mark++) {
                     int ways = minute == last ? 1 : nearTo(going[minute + 1], mark);
