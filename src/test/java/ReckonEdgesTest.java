@@ -30,6 +30,7 @@ public final class ReckonEdgesTest {
         house();
         free();
         calm();
+        longAheadOfShort();
         Check.finish();
     }
 
@@ -575,6 +576,11 @@ public final class ReckonEdgesTest {
             Check.due("TALES behind " + n, x.drawn(0, 5, n, 4), tales[n]);
         }
         Check.due("TALES behind 60", x.drawn(0, 5, 60, 4), 59);
+        int[] most = {38, 39, 40, 40};
+        for (int n = 0; n < 4; n++) {
+            Check.due("the least mark going up", x.drawn(0, 5, n, 5), 38);
+            Check.due("the most mark going up", x.drawn(0, 5, n, 6), most[n]);
+        }
     }
 
     private static void climb() {
@@ -654,5 +660,35 @@ public final class ReckonEdgesTest {
 
     private static void dueCalm(GlassLaces x, int lady, int lace, int due) {
         Check.due("CALM of " + lady + " by " + lace, x.calm(0, lady, lace), due);
+    }
+
+    /** What was reckoned of a long list is no part of the answer of a short one, on one object. */
+    private static void longAheadOfShort() {
+        String ladies = "lady 0 5 10 30 0;lady 0 6 60 90 0;";
+        GlassLaces x = Check.told(Check.COURT, ROOM + ladies + "glass 20;", Check.COURT, ROOM + "glass 39;" + ladies,
+                Check.FORECAST, "mark 25 25 25 20;", Check.FORECAST, "mark 25;",
+                Check.SIGHT, "stood 1 16;", Check.SIGHT, "stood 1 2;",
+                Check.LEDGER, "owes 0 1 1;owes 2 3 2;owes 4 5 3;owes 6 7 4;", Check.LEDGER, "owes 7 0 1;",
+                Check.SHIFTS, "maid 0 30;maid 0 30;", Check.SHIFTS, "maid 4 5;");
+        for (int round = 0; round < 2; round++) {
+            Check.due("LACED by the long one", x.laced(0, 0, 0, false, 0), 5);
+            Check.due("LACED by the short one", x.laced(0, 1, 0, false, 0), 0);
+            Check.due("LACE by the short one", x.laced(0, 1, 0, false, 10), 5);
+            Check.due("LEAST by the long one", x.least(0, 0, 2, false, false), 5);
+            Check.due("LEAST by the short one", x.least(0, 1, 2, false, false), 0);
+            Check.due("ways by the long one", x.ways(0, 0), 43046721);
+            Check.due("ways by the short one", x.ways(0, 1), 9);
+            Check.due("ways by the short one from 39", x.ways(1, 1), 8);
+            Check.due("MAY by the short one from 39", x.may(1, 1, 2, 1), 40);
+            Check.due("MAY by the short one from 20", x.may(0, 1, 2, 0), 18);
+            Check.due("REACH from 20", x.reach(0, 20, 0, false, false), 1);
+            Check.due("REACH of 20 from 39", x.reach(1, 20, 0, false, false), 0);
+            Check.due("PAYS of the long one", x.pays(0, false), 4);
+            Check.due("PAYS of the short one", x.pays(1, false), 1);
+            Check.due("LONGEST of the long one", x.longest(0, 2), 31);
+            Check.due("LONGEST of the short one", x.longest(1, 1), 2);
+            Check.due("COVER by the short one", x.cover(1, 4, 5, 1, false), 1);
+            Check.due("GAP of the short one", x.cover(1, 4, 6, 1, true), 6);
+        }
     }
 }

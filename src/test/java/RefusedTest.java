@@ -23,6 +23,7 @@ public final class RefusedTest {
         askingChangesNothing();
         imagesOfEachOther();
         imageOfANewObject();
+        theLastOf512Calls();
         Check.finish();
     }
 
@@ -258,5 +259,21 @@ public final class RefusedTest {
             Check.due("text in place 0 of none", x.text(sort, 0), -2);
             Check.due("text as the first", Check.read(x, sort, TEXTS[sort]), 0);
         }
+    }
+
+    /** Calls 1 to 512 are promised; each one of them may be the one that tells. */
+    private static void theLastOf512Calls() {
+        GlassLaces x = new GlassLaces();
+        for (int call = 1; call <= 509; call++) {
+            Check.due("call " + call, x.count(Check.SHIFTS), 0);
+        }
+        Check.due("call 510", x.feed(0x6D616964, 0x20312032, 0x3B202020, 0x20202020, 0x20202020), 20);
+        Check.due("call 511", x.text(Check.SHIFTS, -1), 0);
+        Check.due("call 512", x.cover(0, 1, 2, 1, false), 1);
+        x = new GlassLaces();
+        for (int call = 1; call <= 511; call++) {
+            Check.due("image, call " + call, x.image(call % 3), true);
+        }
+        Check.due("again, call 512", x.again(0), true);
     }
 }

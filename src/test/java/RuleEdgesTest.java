@@ -269,6 +269,8 @@ public final class RuleEdgesTest {
             dueEach(room + Check.times(many, "lady 1 0 60 90 15;"), minutes, 6, "0 " + c + " " + 2 * c);
             dueEach(room + Check.times(many, "lady 1 0 60 90 16;"), minutes, 6, "0 0 0");
         }
+        // GOSSIP 0 is above a PRESSURE below 0.
+        dueEach("room 1 9;glass 8;lady 0 0 60 90 0;lady 0 0 60 90 0;", "minute;glass 9;minute;", 6, "0 0 0 1");
         // Both of a couple must be of such GOSSIP, in the same ROOM, and UP.
         String one = "lady 0 0 60 90 20;";
         dueEach(room + one + "lady 0 0 60 90 21;", "minute;", 6, "0 0");

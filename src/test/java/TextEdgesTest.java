@@ -143,6 +143,7 @@ public final class TextEdgesTest {
                 bad(sort, 1, "^" + word + " 1 1;");
             }
         }
+        bad(Check.SIGHT, 1, "shot 1 1^;");
         bad(Check.SIGHT, 1, "shot 1 1 ^fel;");
         bad(Check.SIGHT, 1, "shot 1 1 ^stoods;");
         bad(Check.SIGHT, 1, "fell ^stood 1 1;");
