@@ -255,6 +255,9 @@ public final class ReckonEdgesTest {
         // She stands by LACE 0 alone, at each of the marks.
         dueWorth(ROOM + "lady 0 3 10 90 0;glass 20;wind 0 1 0;", 99, 0, 1, 0);
         dueWorth(ROOM + "lady 0 3 10 90 0;glass 20;wind 0 1 0;", 4, 0, 1, 0);
+        // By LACES up to 1, and up to 30.
+        dueWorth(ROOM + "lady 0 3 11 90 0;glass 20;wind 0 1 0;", 99, 0, 1, 1);
+        dueWorth(ROOM + "lady 0 30 60 50 0;glass 20;wind 0 1 0;", 99, 0, 1, 30);
         // KNOTS and PEN are as many: of several the least LACE.
         dueWorth(ROOM + "lady 0 3 10 90 0;glass 20;wind 0 1 0;", 3, 0, 1, 0);
         dueWorth(ROOM + "lady 0 3 10 90 0;glass 20;wind 0 1 0;", 2, 0, 1, 3);
